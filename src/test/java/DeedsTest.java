@@ -181,6 +181,7 @@ public final class DeedsTest {
         PuddleClaims none = new PuddleClaims();
         Due.due("without any", none.drift(2), 0);
         Due.due("the draw goes on", none.seed(1), 377401575L);
+        Due.due("nor is any cart drawn in so many hours", none.drift(40), 0);
         Due.due("claims are made", Due.street("p09;0").drift(1), 1);
     }
 

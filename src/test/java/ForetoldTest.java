@@ -101,6 +101,7 @@ public final class ForetoldTest {
         Due.due("two for the same", Due.street("p13;1,1").match(), 1);
         Due.due("whenever they come", Due.street("p13,p23;1@20,2@9").match(), 2);
         Due.due("six", Due.street("p11,p12,p13,p14,p15,p16,p17;1/2,1/3,1/4,1/5,1/6,1/7").match(), 6);
+        Due.due("six, each moved on for the next", Due.street("p17,p16,p15,p14,p13,p12;1/2,1/3,1/4,1/5,1/6,1/7").match(), 6);
         PuddleClaims x = Due.street("p130,p120,p230;1/15,1,1,2@9");
         Due.due("ahead", x.match(), 3);
         x.hours(1);
@@ -149,6 +150,13 @@ public final class ForetoldTest {
         Due.due("one hour", x.order(1, -1), 1);
         Due.due("of like ones the first", x.order(1, 0), 0);
         Due.due("and then", x.order(1, 1), 1);
+        // The second finds nothing whenever he comes; the third only if he is the first.
+        PuddleClaims three = Due.street("p110,p18;1/6,7,1/10");
+        int[] order = {2, 2, 0, 1, PuddleClaims.NONE};
+        for (int k = 0; k < order.length; k++) {
+            Due.due("of three, " + (k - 1), three.order(3, k - 1), order[k]);
+        }
+        Due.due("what one has the other can't have", Due.street("p19,p29;1,1").order(5, -1), 1);
         Due.due("nobody", new PuddleClaims().order(1, 0), PuddleClaims.NONE);
         Due.due("none of nobody", new PuddleClaims().order(1, -1), 0);
     }

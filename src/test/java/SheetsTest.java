@@ -33,9 +33,12 @@ public final class SheetsTest {
         Due.due("below 0", x.sheet(3, 0, -1), SIZE);
         Due.due("far below 0", x.sheet(3, 0, LOW), SIZE);
         Due.due("what is refused changes nothing", x.item(3, 3, 23, 1), 1);
+        Due.due("the first item too", x.item(3, 3, 0, 1), 1);
         Due.due("anew", x.sheet(3, 3, 24), 24);
         x.puddle(0, 0, 0);
-        Due.due("all items are 0", x.dipped(0, 3, 3, 23, 1, 0), 31);
+        for (int i = 0; i < 24; i++) {
+            Due.due("item " + i + " is 0", x.dipped(0, 3, 3, i, 1, 0), 31);
+        }
     }
 
     private static void sheetsAreDropped() {
@@ -227,6 +230,9 @@ public final class SheetsTest {
             }
             Due.due("the item ahead is as it was", x.dipped(0, 0, lane, 19, 1, 1), 3);
             Due.due("a kerb: a grate by a dry one would lose more", x.dipped(1, 0, lane, 20, 1, 0), 4);
+            x.item(0, lane, 2, 58);
+            Due.due("two of it", x.film(1, 2, 0, lane, 0), 2);
+            Due.due("the item behind is as it was", x.dipped(0, 0, lane, 2, 1, 2), 60);
             Due.due("all of it", x.film(1, 24, 0, lane, 0), 24);
             Due.due("dry at last", x.dipped(0, 0, lane, 23, 1, 1), 3);
         }
