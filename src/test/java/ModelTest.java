@@ -2,7 +2,7 @@ import java.util.Random;
 
 /** Random runs of calls, all of the face among them, on the program and on Model: every answer is the same. */
 public final class ModelTest {
-    private static final int RUNS = 700, CALLS = 500;
+    private static final int RUNS = 800, CALLS = 405;
     private static final int[] WILD = {-1, -2, 7, 8, 9, 21, 24, 25, 31, 41, 61, 127, 1000, Integer.MIN_VALUE, Integer.MAX_VALUE};
     /** Calls that make things, or are cheap, are drawn more often than those that Model answers slowly. */
     private static final String[] NAMES = {
