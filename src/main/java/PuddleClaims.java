@@ -40,22 +40,22 @@ public final class PuddleClaims {
         if (!within(kind, 0, Street.KINDS - 1) || !isSight(sight) || !within(deep, 0, Street.BRIM)) {
             return BAD;
         }
-        if (now.puddles >= Street.MOST_PUDDLES) {
-            return FULL;
+        int number = now.addPuddle(kind, sight, deep);
+        if (number >= 0) {
+            past.forget();
         }
-        past.forget();
-        return now.addPuddle(kind, sight, deep);
+        return number;
     }
 
     public int person(int lost, int comes, int needs) {
         if (!isSight(lost) || !isComing(comes) || !within(needs, 1, Street.MOST_NEEDED)) {
             return BAD;
         }
-        if (now.people >= Street.MOST_PEOPLE) {
-            return FULL;
+        int number = now.addPerson(lost, comes, needs);
+        if (number >= 0) {
+            past.forget();
         }
-        past.forget();
-        return now.addPerson(lost, comes, needs);
+        return number;
     }
 
     public int show(int puddle, int sight) {
@@ -108,13 +108,7 @@ public final class PuddleClaims {
     }
 
     public int type(int letter) {
-        if (!within(letter, 32, 126)) {
-            return BAD;
-        }
-        if (tape.length >= Tape.ROOM) {
-            return FULL;
-        }
-        return tape.add((char) letter);
+        return within(letter, 32, 126) ? tape.add((char) letter) : BAD;
     }
 
     public int read() {
@@ -627,6 +621,7 @@ public final class PuddleClaims {
             hour = 0;
         }
 
+        /** Its number, or FULL. */
         int addPuddle(int ofKind, int sight, int depth) {
             if (puddles >= MOST_PUDDLES) {
                 return FULL;
@@ -638,6 +633,7 @@ public final class PuddleClaims {
             return puddles - 1;
         }
 
+        /** Its number, or FULL. */
         int addPerson(int sight, int coming, int needed) {
             if (people >= MOST_PEOPLE) {
                 return FULL;
@@ -882,6 +878,7 @@ public final class PuddleClaims {
         int length = 0;
         private int place = 0;
 
+        /** How many there are then, or FULL. */
         int add(char letter) {
             if (length >= ROOM) {
                 return FULL;

@@ -183,6 +183,9 @@ public final class ForetoldEdgesTest {
         order(new PuddleClaims(), 1, 0);
         order(Due.street("p09"), 30, 0);
         order(onlyPeople(2), 30, 0, 0, 1);
+        order(Due.street("w160,w060;0,0"), 30, 1, 0, 1);
+        order(Due.street("w160,w160,w160,w160,w160,w160,w060;0,0,0"), 30, 1, 0, 1, 2);
+        order(Due.street("w050,w060,w040;0,0,0,0"), 30, 3, 0, 1, 2, 3);
     }
 
     private static void theFirstOrder() {

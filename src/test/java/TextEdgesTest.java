@@ -336,6 +336,12 @@ public final class TextEdgesTest {
         Due.due("the first of people is gone", x.at(0, 0), PuddleClaims.BAD);
         Due.due("the draw", x.seed(1), 77);
         Due.due("the sheet stays", x.drop(0), 3);
+        PuddleClaims foretold = Due.street("w09;0@20");
+        Due.due("foretold", foretold.then(40), 0);
+        Due.due("foretold", foretold.ahead(0, 40), 0);
+        Due.morning(foretold, "k09;0");
+        Due.due("the hour, whatever was foretold", foretold.count(2), 0);
+        Due.due("by an even hour", foretold.of(0, 4), 4);
         PuddleClaims claimed = Due.street("w09;0");
         claimed.hours(1);
         Due.morning(claimed, "w09;0");
