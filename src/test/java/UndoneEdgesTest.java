@@ -174,6 +174,19 @@ public final class UndoneEdgesTest {
         Due.due("the hour stays", x.count(2), 18);
         x.rain(1);
         Due.due("what comes behind it may be", x.undo(), 0);
+        PuddleClaims each = new PuddleClaims();
+        for (int k = 0; k < 7; k++) {
+            each.rain(1);
+            Due.due("to be undone", each.count(7), 1);
+            Due.due("puddle", each.puddle(0, 0, 0), k);
+            Due.due("to be undone behind puddle " + k, each.count(7), 0);
+        }
+        for (int k = 0; k < 6; k++) {
+            each.rain(1);
+            Due.due("to be undone", each.count(7), 1);
+            Due.due("person", each.person(0, 0, 1), k);
+            Due.due("to be undone behind person " + k, each.count(7), 0);
+        }
         Due.says("(what tells something leaves what may be UNDONE)");
         x.rain(1);
         x.show(0, 1);
@@ -356,6 +369,27 @@ public final class UndoneEdgesTest {
         Due.due("the later one", twice.of(0, 2), 12);
         Due.due("with what may be undone", twice.undo(), 0);
         Due.due("deep", twice.of(0, 2), 9);
+        Due.says("All but SHEETS, THE TAPE");
+        PuddleClaims but = Due.street("p09");
+        but.type('s');
+        but.sheet(0, 2, 2);
+        but.item(0, 2, 0, 5);
+        but.sheet(1, 2, 3);
+        but.image();
+        but.type('4');
+        but.item(0, 2, 0, 7);
+        but.drop(1);
+        but.sheet(2, 2, 4);
+        Due.due("restore", but.restore(), 1);
+        Due.due("the item that was put since", but.dipped(0, 0, 2, 0, 1, 2), 9);
+        Due.due("the sheet that was dropped since", but.drop(1), PuddleClaims.NULL);
+        Due.due("the sheet that was made since", but.drop(2), 4);
+        Due.due("two letters were typed", but.type('3'), 3);
+        Due.due("read", but.read(), 1);
+        Due.due("the kind that was typed ahead of the image", but.of(0, 0), 1);
+        Due.due("the sight that was typed since", but.of(0, 1), 4);
+        Due.due("restore with an empty tape", but.restore(), 1);
+        Due.due("it is empty still", but.read(), -20);
         Due.says("restore .. (an IMAGE of a dry street with nobody)");
         PuddleClaims empty = new PuddleClaims();
         Due.due("image", empty.image(), 1);
