@@ -29,6 +29,7 @@ public final class FaceTest {
         theMethods();
         theConstants();
         noPrivateMethodBearsAPublicName();
+        theClassesInside();
         theText(Files.readString(Path.of(args[0])));
         Due.finish();
     }
@@ -74,7 +75,7 @@ public final class FaceTest {
         Due.holds("at most some twelve classes", classes.size() < 12);
         classes.add(PuddleClaims.class);
         for (Class<?> one : classes) {
-            Due.holds("fields of " + one, one.getDeclaredFields().length <= 30);
+            theFieldsOf(one);
             for (Method method : one.getDeclaredMethods()) {
                 Due.holds("parameters of " + method, method.getParameterCount() <= 7);
                 if (one == PuddleClaims.class && Modifier.isPublic(method.getModifiers())) {
@@ -84,6 +85,24 @@ public final class FaceTest {
                     Due.holds(method + " bears a public name", !method.getName().equals(face.split(" ")[0]));
                 }
             }
+        }
+    }
+
+    private static void theFieldsOf(Class<?> one) {
+        int ofObjects = 0;
+        for (Field field : one.getDeclaredFields()) {
+            boolean isStatic = Modifier.isStatic(field.getModifiers());
+            ofObjects += isStatic ? 0 : 1;
+            Due.holds(field + " is a constant", !isStatic || Modifier.isFinal(field.getModifiers()));
+        }
+        Due.holds("at most some twenty fields: " + one, ofObjects <= 20);
+    }
+
+    private static void theClassesInside() {
+        for (Class<?> one : PuddleClaims.class.getDeclaredClasses()) {
+            int is = one.getModifiers();
+            Due.holds(one + " is static, and private or package-visible",
+                    Modifier.isStatic(is) && !Modifier.isPublic(is) && !Modifier.isProtected(is));
         }
     }
 

@@ -39,9 +39,7 @@ public final class RangesTest {
     }
 
     private static void allowed(String name, long... arguments) {
-        PuddleClaims x = new PuddleClaims();
-        Look.busy(x);
-        Due.holds(Call.told(name, arguments) + " is allowed", Call.make(x, name, arguments) != BAD);
+        Due.holds(Call.told(name, arguments) + " is allowed", Call.make(busy(), name, arguments) != BAD);
     }
 
     /** One argument's range, the others being good ones. */
@@ -345,8 +343,7 @@ public final class RangesTest {
         refused("send", NOT, 0);
         refused("send", NOT, 2);
         refused("send", NOT, 3);
-        PuddleClaims busy = new PuddleClaims();
-        Look.busy(busy);
+        PuddleClaims busy = busy();
         Due.due("he has one", busy.send(1), 2);
         Due.says("LATER (0 .. 20): when it came. BAD; NOT: it is so.");
         refused("later", NOT, 0, 0);
@@ -453,6 +450,7 @@ public final class RangesTest {
         refused("sheet", BAD, -1, 0, -1);
         refused("sheet", BAD, 0, 4, -1);
         refused("sheet", BAD, 0, -1, -1);
+        badAheadOfNone();
         Due.says("NULL, CAST, INDEX, SIZE in this order");
         refused("dipped", NULL, 0, 2, 3, -1, 8, 2);
         refused("film", NULL, 0, 24, 2, 3, -1);
@@ -465,6 +463,37 @@ public final class RangesTest {
         refused("item", CAST, 3, 0, 0, 1);
         refused("copy", CAST, 0, -1, 1, -1, -1);
         refused("copy", CAST, 0, 9, 3, 9, 9);
+    }
+
+    /** NONE answers what was asked rightly: of hours, or of a k, that can't be told there is none to be had. */
+    private static void badAheadOfNone() {
+        Due.says("ORDER for n HOURS (1 .. 30) .. the k-th (NONE: not so many)");
+        Due.due("not so many", busy().order(1, 9), NONE);
+        refused("order", BAD, 0, 9);
+        refused("order", BAD, 31, 9);
+        refused("order", BAD, LOW, HIGH);
+        refused("order", BAD, HIGH, HIGH);
+        Due.says("WET for n HOURS (1 .. 30) .. none");
+        Due.due("never", busy().wet(30), NONE);
+        refused("wet", BAD, 0);
+        refused("wet", BAD, 31);
+        Due.says("behind n HOURS (0 .. 40) .. what one has CLAIMED; NONE. BAD.");
+        Due.due("never", busy().claims(3, 40), NONE);
+        refused("claims", BAD, 3, -1);
+        refused("claims", BAD, 3, 41);
+        Due.says("MATTERS for n HOURS (1 .. 30) .. none: there are none");
+        Consumer<PuddleClaims> nothing = x -> { };
+        refused(nothing, "matters", NONE, 1, 0);
+        refused(nothing, "matters", BAD, 0, 0);
+        refused(nothing, "matters", BAD, 31, 1);
+        refused(nothing, "matters", BAD, 1, -1);
+        refused(nothing, "matters", BAD, 1, 2);
+    }
+
+    private static PuddleClaims busy() {
+        PuddleClaims x = new PuddleClaims();
+        Look.busy(x);
+        return x;
     }
 
     private static void unchanged(String name, long... arguments) {
